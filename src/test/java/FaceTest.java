@@ -1,0 +1,92 @@
+import java.lang.reflect.Constructor;
+import java.lang.reflect.Field;
+import java.lang.reflect.Method;
+import java.lang.reflect.Modifier;
+import java.nio.file.Files;
+import java.nio.file.Path;
+import java.util.ArrayList;
+import java.util.Arrays;
+import java.util.List;
+import java.util.TreeSet;
+
+/** The public face is the document's, and the file keeps to what can be seen of the language's rules. */
+public final class FaceTest {
+  private static int wrong = 0;
+  private static void due(boolean ok, String what) { if (!ok) { wrong++; System.out.println(what); } }
+
+  private static final String[] FACE = {
+    "int sign(int)", "boolean end(int)", "int makes(int, int, int, int)", "int sets(int, int, int)", "int roots(int, int)",
+    "int weaks(int, int)", "int wakes(int, int)", "int trial()", "int limit(int)", "int object(int, int)", "int field(int, int)",
+    "int root(int)", "int all(int)", "int list()", "int holders(int)", "int way(int)", "int from(int)", "int rings()",
+    "int alone(int)", "int keepers(int)", "int cut(int, int)", "int would()", "int settles()", "int ranks(int)",
+    "int log(int, int)", "int logged(int)", "int day()", "int undo()", "int years(int, int)", "boolean keep(int)",
+    "boolean again(int)", "int count(int)", "long row(int)"};
+
+  public static void main(String[] args) throws Exception {
+    face();
+    inside();
+    text(Files.readString(Path.of("src/main/java/CountedHeap.java")));
+    System.out.println(wrong == 0 ? "FaceTest: all is as due" : "FaceTest: " + wrong + " wrong");
+    if (wrong != 0) System.exit(1);
+  }
+
+  private static String told(Method m) {
+    List<String> types = new ArrayList<>();
+    for (Class<?> c : m.getParameterTypes()) types.add(c.getSimpleName());
+    return m.getReturnType().getSimpleName() + " " + m.getName() + "(" + String.join(", ", types) + ")";
+  }
+
+  private static void face() {
+    due(Modifier.isFinal(CountedHeap.class.getModifiers()) && Modifier.isPublic(CountedHeap.class.getModifiers()), "the class is not public and final");
+    TreeSet<String> want = new TreeSet<>(Arrays.asList(FACE));
+    TreeSet<String> got = new TreeSet<>();
+    for (Method m : CountedHeap.class.getDeclaredMethods()) {
+      if (Modifier.isPublic(m.getModifiers())) { got.add(told(m)); due(!Modifier.isStatic(m.getModifiers()), m + " is static"); }
+      else due(Modifier.isPrivate(m.getModifiers()), m + " is not private");
+    }
+    due(got.equals(want), "the face is " + got);
+    for (Field f : CountedHeap.class.getDeclaredFields()) {
+      if (f.getName().equals("NONE")) due(f.getModifiers() == (Modifier.PUBLIC | Modifier.STATIC | Modifier.FINAL) && f.getType() == int.class, "NONE is " + f);
+      else due(Modifier.isPrivate(f.getModifiers()), f + " is not private");
+    }
+    Constructor<?>[] made = CountedHeap.class.getDeclaredConstructors();
+    due(made.length == 1 && Modifier.isPublic(made[0].getModifiers()) && made[0].getParameterCount() == 0, "constructors: " + Arrays.toString(made));
+  }
+
+  private static void inside() {
+    TreeSet<String> names = new TreeSet<>();
+    for (String f : FACE) names.add(f.substring(f.indexOf(' ') + 1, f.indexOf('(')));
+    Class<?>[] classes = CountedHeap.class.getDeclaredClasses();
+    due(classes.length <= 12, "classes inside: " + classes.length);
+    for (Class<?> c : classes) {
+      due(Modifier.isStatic(c.getModifiers()), c + " is not static");
+      due(!Modifier.isPublic(c.getModifiers()) && !Modifier.isProtected(c.getModifiers()), c + " is to be seen");
+      for (Method m : c.getDeclaredMethods()) due(!names.contains(m.getName()), m + " bears a name of the face");
+    }
+    List<Class<?>> all = new ArrayList<>(Arrays.asList(classes));
+    all.add(CountedHeap.class);
+    for (Class<?> c : all) {
+      int fields = 0;
+      for (Field f : c.getDeclaredFields()) {
+        if (!Modifier.isStatic(f.getModifiers())) fields++;
+        else due(Modifier.isFinal(f.getModifiers()), f + " is static, not final");
+      }
+      due(fields <= 20, c + " has " + fields + " fields");
+      for (Method m : c.getDeclaredMethods()) due(m.getParameterCount() <= 7, m + " takes too many");
+    }
+  }
+
+  private static void text(String source) {
+    for (String no : new String[] {"->", "::", "catch", "try {", "finally", "assert ", "synchronized", "package ", "var ", "Random", "System.out", "nanoTime", "currentTimeMillis", "Exact"})
+      due(!source.contains(no), "the file has '" + no + "'");
+    for (int i = 0; i < source.length(); i++) due(source.charAt(i) < 128, "sign " + (int) source.charAt(i));
+    int open = -1;
+    String[] lines = source.split("\n");
+    for (int n = 0; n < lines.length; n++) {
+      String line = lines[n];
+      if (line.startsWith("import ")) due(line.equals("import java.util.Arrays;") || line.equals("import java.util.NoSuchElementException;"), line);
+      if (line.matches("( {4}| {8})(public|private)[^=;]*\\(.*\\{")) open = n;
+      if (open >= 0 && line.matches("( {4}| {8})\\}")) { due(n - open < 60, "long method: " + lines[open]); open = -1; }
+    }
+  }
+}
