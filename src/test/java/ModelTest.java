@@ -59,7 +59,7 @@ public final class ModelTest {
   }
 
   private int any(int n) { return random.nextInt(n); }
-  private int wild() { int[] w = {-1, -2, 24, 25, 99, Integer.MIN_VALUE, Integer.MAX_VALUE, 4, 6, 10}; return w[any(w.length)]; }
+  private int wild() { int[] w = {-1, -2, 24, 25, 32, 33, -32, 99, Integer.MIN_VALUE, Integer.MAX_VALUE, 4, 6, 10}; return w[any(w.length)]; }
   private int or(int v) { return any(40) == 0 ? wild() : v; }
   private int obj() { return or(pick(model.h.numbers(), 24)); }
   private int reached() { return or(pick(new ArrayList<>(model.h.reached()), 24)); }

@@ -371,6 +371,13 @@ public final class PromiseTest {
     g.roots(2, 1); g.roots(2, NONE); g.roots(0, NONE);
     due("trial", g.trial(), 0);
     row(g, 0, 4);
+    // Behind the walk from 2, that from 0 begins at 0, which is kept: 1, no SUSPECT that is MEANT, is never WHITE.
+    CountedHeap f = new CountedHeap();
+    f.makes(2, 1, 0, 0); f.makes(1, 1, 0, 1); f.makes(1, 1, 0, 2);
+    f.sets(0, 0, 1); f.sets(1, 0, 0); f.sets(2, 0, 2);
+    f.roots(1, NONE); f.sets(0, 1, 1); f.roots(2, NONE); f.roots(3, 0); f.roots(3, NONE);
+    due("list", f.list(), 3); row(f, 1, 2, 0);
+    due("trial", f.trial(), 1); row(f, 0, 6);
   }
 
   private static void trialEnds() {
@@ -413,6 +420,15 @@ public final class PromiseTest {
     h.makes(0, 1, 0, 1);
     due("at LIMIT", h.count(1), 0);
     due("count(0)", h.count(0), 2);
+    // LIMIT 24 is met by all 24 OBJECTS.
+    CountedHeap a = chain(24, 1);
+    due("count(1)", a.count(1), 23);
+    a.roots(2, 0);
+    due("count(1)", a.count(1), 23);
+    a.roots(2, NONE); row(a, 24, 0);
+    CountedHeap u = chain(24, 1);
+    u.roots(2, 0); u.limit(23); u.undo(); u.roots(3, 23); u.roots(3, NONE);
+    due("count(1)", u.count(1), 23);
     // One TRIAL alone: ENDS leave as many SUSPECTS as LIMIT.
     CountedHeap g = deadRing(1, 1);
     g.limit(1);
@@ -813,6 +829,10 @@ public final class PromiseTest {
     due("again(1)", h.again(1), false);
     due("again(2)", h.again(2), false);
     due("again(-1)", h.again(-1), false);
+    for (int i : new int[] {32, 64, -32, Integer.MIN_VALUE, Integer.MAX_VALUE}) {
+      due("again(" + i + ")", h.again(i), false);
+      due("keep(" + i + ")", h.keep(i), false);
+    }
     due("count(5)", h.count(5), 6);
     h.trial(); h.limit(3); h.sign(0); h.logged(0);
     due("again(0)", h.again(0), true);
