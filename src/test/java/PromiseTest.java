@@ -30,34 +30,9 @@ public final class PromiseTest {
       due("log(" + (from + n) + ", 1)", h.log(from + n, 1), kindsAndObjects[2 * n + 1]);
     }
   }
-  private static void write(CountedHeap h, String text) {
-    for (int p = 0; p < text.length(); p += 4) {
-      int v = 0;
-      for (int q = p; q < p + 4; q++) v = v << 8 | (q < text.length() ? text.charAt(q) : 0);
-      h.sign(v);
-    }
-    h.end(text.length());
-  }
-  private static int day(CountedHeap h, String text) { write(h, text); return h.day(); }
-
-  /** OBJECTS 0 .. n - 1 with so many FIELDS, WEIGHTS 1 .. 9 in turn, each in a FIELD of the one ahead, 0 in ROOT 0. */
-  private static CountedHeap chain(int n, int fields) {
-    CountedHeap h = new CountedHeap();
-    for (int i = 0; i < n; i++) {
-      h.makes(fields, i % 9 + 1, 0, i == 0 ? 0 : 1);
-      if (i > 0) h.sets(i - 1, 0, i);
-    }
-    if (n > 1) h.roots(1, NONE);
-    return h;
-  }
-  /** A ring of two, dead, both SUSPECTS; with these ENDS. */
-  private static CountedHeap deadRing(int end0, int end1) {
-    CountedHeap h = new CountedHeap();
-    h.makes(1, 2, end0, 0); h.makes(1, 3, end1, 1);
-    h.sets(0, 0, 1); h.sets(1, 0, 0);
-    h.roots(0, NONE); h.roots(1, NONE);
-    return h;
-  }
+  private static int day(CountedHeap h, String text) { return Heaps.day(h, text); }
+  private static CountedHeap chain(int n, int fields) { return Heaps.chain(n, fields); }
+  private static CountedHeap deadRing(int end0, int end1) { return Heaps.deadRing(end0, end1); }
 
   public static void main(String[] args) {
     promise = 1; newObject();
@@ -181,11 +156,10 @@ public final class PromiseTest {
   }
 
   private static void full() {
-    CountedHeap h = chain(1, 4);
-    for (int i = 1; i < 24; i++) { h.makes(4, 1, 0, 1); h.sets((i - 1) / 4, (i - 1) % 4, i); }
-    h.all(0);
+    CountedHeap h = Heaps.full();
+    h.holders(0);
     due("makes as there are 24", h.makes(0, 1, 0, 0), -2);
-    row(h, 24);
+    row(h, 1, 0);
     due("NONE ahead of -2", h.makes(5, 1, 0, 0), NONE);
     due("count(0)", h.count(0), 24);
   }
