@@ -351,6 +351,10 @@ public final class ActsTest {
     due("trial", b.trial(), 2); row(b, 2, 4);
     due("logged(1)", b.logged(1), 2);
     due("all(0)", b.all(0), 3);
+    // What was FREED, what ENDS ran ahead of it are not told again.
+    b.roots(3, NONE);
+    due("trial", b.trial(), 2); row(b, 0, 4);
+    due("logged(2)", b.logged(2), 2);
     // None is FREED.
     CountedHeap k = Heaps.chain(3, 1);
     due("trial", k.trial(), 0); row(k, 0, 4);

@@ -221,6 +221,19 @@ public final class ChangesTest {
     due("undo", l.undo(), 7);
     Sentences.same("THE LOG", Heaps.heapOf(l), before);
     due("logged(0)", l.logged(0), 40);
+    // Each row of those that were written over: kinds and OBJECTS in another order than behind them.
+    CountedHeap o = Sentences.made(ChangesTest::fiftyRows);
+    String rows = Heaps.heapOf(o);
+    due("day", Heaps.day(o, "n0101n0102n0103n0104n0115n0115n0115n0115n0115n0115n0115n0115n0115n0115n0115n0115"), 16);
+    o.undo();
+    Sentences.same("THE LOG", Heaps.heapOf(o), rows);
+  }
+
+  /** 50 rows of OBJECTS 0 .. 5 by turns. */
+  private static void fiftyRows(CountedHeap h) {
+    for (int n = 0; n < 6; n++) h.makes(0, 1, 0, n);
+    for (int n = 0; n < 22; n++) { h.roots(n * 5 % 6, NONE); h.makes(0, n % 9 + 1, 0, n * 5 % 6); }
+    due("rows", h.count(4), 50);
   }
 
   @Sentences.Says(promise = 29, value = "Refused: none.")
@@ -328,6 +341,14 @@ public final class ChangesTest {
       due("again(" + i + ")", h.again(i), true);
       alike("again", h, Sentences.made(SOME));
     }
+    // Numbers that come again to others: WEIGHTS, FIELDS, ENDS, THE LOG are as they were.
+    CountedHeap w = Sentences.made(ChangesTest::fiftyRows);
+    String was = Heaps.heapOf(w);
+    w.keep(1);
+    for (int r = 0; r < 6; r++) w.roots(r, NONE);
+    for (int r = 5; r >= 0; r--) { w.makes(r % 5, 9 - r, 1, r); w.roots(r, NONE); w.makes(4 - r % 4, r + 1, r + 2, r); }
+    due("again(1)", w.again(1), true);
+    Sentences.same("again", Heaps.heapOf(w), was);
     // Two of them apart; the later one under a number stands for the one ahead.
     CountedHeap h = fresh();
     h.keep(0); h.limit(2); h.keep(1); h.limit(3);

@@ -1,3 +1,4 @@
+import java.lang.reflect.Array;
 import java.lang.reflect.Constructor;
 import java.lang.reflect.Field;
 import java.lang.reflect.Method;
@@ -6,7 +7,10 @@ import java.nio.file.Files;
 import java.nio.file.Path;
 import java.util.ArrayList;
 import java.util.Arrays;
+import java.util.Collections;
+import java.util.IdentityHashMap;
 import java.util.List;
+import java.util.Set;
 import java.util.TreeSet;
 
 /** The public face is the document's, and the file keeps to what can be seen of the language's rules. */
@@ -26,6 +30,7 @@ public final class FaceTest {
     face();
     inside();
     text(Files.readString(Path.of("src/main/java/CountedHeap.java")));
+    room();
     System.out.println(wrong == 0 ? "FaceTest: all is as due" : "FaceTest: " + wrong + " wrong");
     if (wrong != 0) System.exit(1);
   }
@@ -88,5 +93,46 @@ public final class FaceTest {
       if (line.matches("( {4}| {8})(public|private)[^=;]*\\(.*\\{")) open = n;
       if (open >= 0 && line.matches("( {4}| {8})\\}")) { due(n - open < 60, "long method: " + lines[open]); open = -1; }
     }
+  }
+
+  // One room holds 600,000 objects and arrays, 7.3 million fields and elements: a hundred objects of the class take a tenth of it.
+  private static final int MOST_OBJECTS = 600;
+  private static final int MOST_ELEMENTS = 7300;
+
+  /** What an object of the class is made of, ahead of all calls and behind many: calls make nothing that stays. */
+  private static void room() throws Exception {
+    CountedHeap h = new CountedHeap();
+    int[] made = sizeOf(h);
+    due(made[0] <= MOST_OBJECTS && made[1] <= MOST_ELEMENTS, "an object takes " + made[0] + " objects, " + made[1] + " fields and elements");
+    for (int n = 0; n < 60; n++) {
+      h.makes(2, 1, n % 8, n % 6); h.sets(n % 24, 0, n * 7 % 24); h.weaks(n % 4, n % 24); h.trial(); h.sign(0x74747474); h.day();
+      h.keep(n & 1); h.years(n, 40);
+    }
+    int[] used = sizeOf(h);
+    due(Arrays.equals(made, used), "it takes " + used[0] + " objects, " + used[1] + " fields and elements behind 480 calls, not " + made[0] + ", " + made[1]);
+  }
+
+  private static int[] sizeOf(Object start) throws Exception {
+    Set<Object> seen = Collections.newSetFromMap(new IdentityHashMap<>());
+    List<Object> waiting = new ArrayList<>();
+    waiting.add(start); seen.add(start);
+    int elements = 0;
+    for (int n = 0; n < waiting.size(); n++) {
+      Object o = waiting.get(n);
+      List<Object> parts = new ArrayList<>();
+      if (o.getClass().isArray()) {
+        elements += Array.getLength(o);
+        if (o instanceof Object[] many) parts.addAll(Arrays.asList(many));
+      } else {
+        for (Field f : o.getClass().getDeclaredFields()) {
+          if (Modifier.isStatic(f.getModifiers())) continue;
+          elements++;
+          f.setAccessible(true);
+          if (!f.getType().isPrimitive()) parts.add(f.get(o));
+        }
+      }
+      for (Object part : parts) if (part != null && seen.add(part)) waiting.add(part);
+    }
+    return new int[] {seen.size(), elements};
   }
 }

@@ -122,6 +122,7 @@ public final class QuestionsTest {
     Sentences.asks(SOME, "of none", 0, h -> h.holders(2), 17, 10);
     Sentences.asks(SOME, "two FIELDS of one", 4, h -> h.holders(3), 0, 0);
     Sentences.asks(SOME, "a dead one", 2, h -> h.holders(0), 0, 0);
+    Sentences.asks(SOME, "a dead one", 1, h -> h.holders(1), 0, 0);
     Sentences.asks(h -> { some(h); h.sets(3, 0, 3); }, "itself", 12, h -> h.holders(3), 0, 0);
     Sentences.Setup most = h -> {
       Heaps.full(h);
@@ -163,6 +164,19 @@ public final class QuestionsTest {
     // Of two ROOTS the lesser OBJECT, not the lesser ROOT.
     Sentences.asks(h -> { h.makes(1, 1, 0, 5); h.makes(1, 1, 0, 0); h.makes(0, 1, 0, 1); h.sets(0, 0, 2); h.sets(1, 0, 2); h.roots(1, NONE); },
         "the lesser OBJECT", 2, h -> h.way(2), 0, 2);
+    // 0 is no way to 3, though 1 has it: 2, 4, 3 and not 1, ..
+    Sentences.asks(h -> {
+      for (int i = 0; i < 5; i++) h.makes(1, 1, 0, i);
+      h.sets(1, 0, 0); h.sets(2, 0, 4); h.sets(4, 0, 3); h.roots(0, NONE); h.roots(3, NONE); h.roots(4, NONE);
+    }, "0 is no way", 3, h -> h.way(3), 2, 4, 3);
+    // A way that goes down to 0.
+    Sentences.asks(h -> {
+      for (int i = 0; i < 6; i++) { h.makes(1, 1, 0, i); if (i > 0) { h.sets(i, 0, i - 1); h.roots(i - 1, NONE); } }
+    }, "down to 0", 6, h -> h.way(0), 5, 4, 3, 2, 1, 0);
+    Sentences.asks(h -> {
+      for (int i = 0; i < 6; i++) { h.makes(1, 1, 0, i); if (i > 0) { h.sets(i, 0, i - 1); h.roots(i - 1, NONE); } }
+      h.sets(0, 0, 5); h.roots(2, 0); h.roots(5, NONE);
+    }, "over 0", 3, h -> h.way(4), 0, 5, 4);
     // The longest one.
     CountedHeap c = Heaps.chain(24, 1);
     c.sets(23, 0, 0);
@@ -308,6 +322,9 @@ public final class QuestionsTest {
     Sentences.asks(h -> Heaps.deadRing(h, 0, 0), "a dead ring", 3, CountedHeap::would, 0, 4, 0);
     Sentences.asks(h -> Heaps.deadRing(h, 1, 0), "an END", 0, CountedHeap::would, 1, 4, 2);
     Sentences.asks(h -> Heaps.deadRing(h, 2, 2), "two ENDS", 0, CountedHeap::would, 2, 4, 2);
+    // ENDS that ran ahead of it, and what went then, are not told.
+    Sentences.asks(h -> { h.makes(0, 1, 1, 5); h.roots(5, NONE); Heaps.deadRing(h, 1, 0); h.trial(); }, "ENDS ahead", 3, CountedHeap::would, 0, 4, 0);
+    Sentences.asks(h -> { h.makes(0, 1, 1, 5); h.roots(5, NONE); Heaps.deadRing(h, 1, 0); }, "ENDS ahead", 0, CountedHeap::would, 1, 4, 2);
     // 0 comes back to ROOT 3: 2 goes, and 3 with it, by an END of its own.
     Sentences.asks(h -> { Heaps.deadRing(h, 5, 0); h.makes(1, 1, 0, 3); h.makes(0, 1, 1, 4); h.sets(2, 0, 3); h.roots(4, NONE); },
         "those behind ENDS, too", 12, CountedHeap::would, 2, 4, 2);

@@ -48,6 +48,13 @@ public final class TermsTest {
     f.sets(5, 2, NONE);
     due("all(0)", f.all(0), 0x7fffff);
     due("makes", f.makes(0, 1, 0, 5), 23);
+    // A number that comes again has nothing of the one ahead: its END has not run, it is on no LIST.
+    CountedHeap a = fresh();
+    a.makes(2, 9, 2, 1); a.roots(2, 0); a.roots(2, NONE); a.roots(1, NONE); a.roots(0, NONE);
+    due("makes", a.makes(3, 1, 4, 5), 0);
+    int[] want = {1, 3, 1, 4, 0, 0, 1};
+    for (int what = 0; what < 7; what++) due("object(0, " + what + ")", a.object(0, what), want[what]);
+    due("its END runs", a.roots(5, NONE), 2);
   }
 
   @Sentences.Says("each FIELDS 0 .. n - 1 (n 0 .. 4), in each an OBJECT or none")
@@ -219,6 +226,7 @@ public final class TermsTest {
     list(h, 0, 1, 2);
     h.roots(0, NONE);
     list(h, 1, 2);
+    due("the others are MEANT yet", h.object(1, 5), 1);
     // It comes back: it is an OBJECT, but on THE LIST no more.
     h.roots(1, NONE);
     due("root(0)", h.root(0), 1);
@@ -343,6 +351,12 @@ public final class TermsTest {
     list(g, 0, 1);
     due("trial", g.trial(), 0); row(g, 0, 2);
     list(g);
+    // 0 is not MEANT; 1, behind it, is a dead ring.
+    CountedHeap d = fresh();
+    d.makes(1, 1, 0, 0); d.makes(1, 1, 0, 1); d.sets(1, 0, 1); d.roots(2, 0); d.roots(2, NONE); d.roots(1, NONE); d.roots(2, 0);
+    list(d, 0, 1);
+    due("trial", d.trial(), 1); row(d, 0, 2);
+    due("all(0)", d.all(0), 1);
   }
 
   @Sentences.Says("GRAY: if it is not GRAY, it is, and of each of its FIELDS, by numbers, the OBJECT's COUNT is one less, and it is gone on with likewise")
@@ -442,6 +456,7 @@ public final class TermsTest {
     due("root(7)", h.root(7), NONE);
     due("root(8)", h.root(8), NONE);
     due("count(3)", h.count(3), 1);
+    due("holders(1)", h.holders(1), 0); row(h, 2, 0);
     // The number comes again with FIELDS that are empty.
     due("makes", h.makes(3, 1, 0, 0), 0);
     for (int k = 0; k < 3; k++) due("field(0, " + k + ")", h.field(0, k), NONE);
@@ -481,6 +496,18 @@ public final class TermsTest {
     list(h, 1, 0, 2);
     for (int i = 0; i < 3; i++) due("object(" + i + ", 5)", h.object(i, 5), 1);
     due("object(3, 5)", h.object(3, 5), 0);
+  }
+
+  @Sentences.Says("(None is GRAY, WHITE, BLACK behind that.)")
+  static void noColourStays() {
+    // Two that were WHITE in the TRIAL ahead, and are not MEANT any more, are not FREED by the next one.
+    CountedHeap w = fresh();
+    w.makes(1, 1, 1, 0); w.makes(1, 1, 1, 1); w.sets(0, 0, 1); w.sets(1, 0, 0); w.weaks(0, 0); w.weaks(1, 1);
+    w.roots(0, NONE); w.roots(1, NONE);
+    due("trial", w.trial(), 0); row(w, 2, 4);
+    w.wakes(0, 5); w.wakes(1, 4);
+    due("trial", w.trial(), 0); row(w, 0, 0);
+    due("all(1)", w.all(1), 3);
   }
 
   @Sentences.Says("VISITS: how often an OBJECT was made GRAY, WHITE, BLACK")
